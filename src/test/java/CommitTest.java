@@ -19,19 +19,6 @@ public final class CommitTest {
         CHECK.finish();
     }
 
-    private static void epoch(RatchetGroup x, int number, int... due) {
-        for (int what = 0; what < due.length; what++) {
-            CHECK.same("epoch(" + number + ", " + what + ")", x.epoch(number, what), due[what]);
-        }
-    }
-
-    private static void node(RatchetGroup x, int epoch, int node, int... due) {
-        for (int what = 0; what < due.length; what++) {
-            String call = "node(" + epoch + ", " + node + ", " + what + ")";
-            CHECK.same(call, x.node(epoch, node, what), due[what]);
-        }
-    }
-
     private static void wrongCommits() {
         RatchetGroup x = Groups.of(2);
         for (int m : new int[] {-1, 16, Integer.MAX_VALUE, Integer.MIN_VALUE}) {
@@ -45,14 +32,14 @@ public final class CommitTest {
 
     private static void firstPath() {
         RatchetGroup x = Groups.of(4);
-        epoch(x, 1, 2, 0, 0b1010, 0, 0, 0b1110, 6, -1);
-        node(x, 1, 0, 1, 0, 1, 1);
-        node(x, 1, 1, 1, 0, 1, 1);
-        node(x, 1, 2, 1, 0, 1, 1);
-        node(x, 1, 3, 1, 0, 1, 1);
-        node(x, 1, 5, 0, 0, -1, 2, -1);
-        node(x, 1, 6, 1, 0, 1, 1);
-        node(x, 1, 7, -1, -1, -1, -1);
+        CHECK.epoch(x, 1, 2, 0, 0b1010, 0, 0, 0b1110, 6, -1);
+        CHECK.node(x, 1, 0, 1, 0, 1, 1);
+        CHECK.node(x, 1, 1, 1, 0, 1, 1);
+        CHECK.node(x, 1, 2, 1, 0, 1, 1);
+        CHECK.node(x, 1, 3, 1, 0, 1, 1);
+        CHECK.node(x, 1, 5, 0, 0, -1, 2, -1);
+        CHECK.node(x, 1, 6, 1, 0, 1, 1);
+        CHECK.node(x, 1, 7, -1, -1, -1, -1);
     }
 
     private static RatchetGroup threeAndAPathByTwo() {
@@ -64,27 +51,27 @@ public final class CommitTest {
 
     private static void addWithoutPath() {
         RatchetGroup x = threeAndAPathByTwo();
-        epoch(x, 2, 2, 2, 0b1000, 0, 0, 0, 1);
-        node(x, 2, 5, 0, 0, -1, 1);
+        CHECK.epoch(x, 2, 2, 2, 0b1000, 0, 0, 0, 1);
+        CHECK.node(x, 2, 5, 0, 0, -1, 1);
         x.add(0, x.offer(3));
         x.commit(0, false);
-        epoch(x, 3, 2, 0, 0, 0, 0, 0b1000, 1);
-        node(x, 3, 6, 1, 0, 3, 1);
-        node(x, 3, 5, 0, 0, -1, 2);
-        node(x, 3, 3, 1, 0b1000, 2, 2);
-        node(x, 3, 0, 1, 0, 1, 1);
-        node(x, 2, 3, 1, 0, 2, 1);
+        CHECK.epoch(x, 3, 2, 0, 0, 0, 0, 0b1000, 1);
+        CHECK.node(x, 3, 6, 1, 0, 3, 1);
+        CHECK.node(x, 3, 5, 0, 0, -1, 2);
+        CHECK.node(x, 3, 3, 1, 0b1000, 2, 2);
+        CHECK.node(x, 3, 0, 1, 0, 1, 1);
+        CHECK.node(x, 2, 3, 1, 0, 2, 1);
         Groups.allCome(x, 1, 2, 3);
         x.commit(1, false);
-        epoch(x, 4, 2, 1, 0b1010, 0, 0, 0, 3);
-        node(x, 4, 3, 1, 0, 4, 1);
+        CHECK.epoch(x, 4, 2, 1, 0b1010, 0, 0, 0, 3);
+        CHECK.node(x, 4, 3, 1, 0, 4, 1);
     }
 
     private static void pathBeyondAdded() {
         RatchetGroup x = threeAndAPathByTwo();
         x.add(0, x.offer(3));
         x.commit(0, true);
-        epoch(x, 3, 2, 0, 0b1010, 0, 0, 0b1000, 4);
+        CHECK.epoch(x, 3, 2, 0, 0b1010, 0, 0, 0b1000, 4);
         // An added leaf is left out where a node has it unmerged, too, and told of there later.
         RatchetGroup y = Groups.of(5);
         y.remove(0, 2);
@@ -92,11 +79,11 @@ public final class CommitTest {
         y.come(4);
         y.add(4, y.offer(2));
         y.commit(4, true);
-        epoch(y, 3, 3, 4, 1 << 7, 0, 0, 0b100, 3);
-        node(y, 3, 3, 1, 0b100, 2, 2);
-        node(y, 3, 7, 1, 0, 3, 1);
+        CHECK.epoch(y, 3, 3, 4, 1 << 7, 0, 0, 0b100, 3);
+        CHECK.node(y, 3, 3, 1, 0b100, 2, 2);
+        CHECK.node(y, 3, 7, 1, 0, 3, 1);
         y.commit(4, true);
-        epoch(y, 4, 3, 4, 1 << 7, 0, 0, 0, 2);
+        CHECK.epoch(y, 4, 3, 4, 1 << 7, 0, 0, 0, 2);
     }
 
     private static void removesThatGo() {
@@ -106,10 +93,10 @@ public final class CommitTest {
         x.remove(0, 2);
         x.remove(0, 9);
         CHECK.same("commit(1, false)", x.commit(1, false), 2);
-        epoch(x, 2, 2, 1, 0b1010, 0b100, 0, 0, 2);
-        node(x, 2, 4, 0, 0, -1, 0);
-        node(x, 2, 5, 0, 0, -1, 1);
-        node(x, 2, 3, 1, 0, 2, 1);
+        CHECK.epoch(x, 2, 2, 1, 0b1010, 0b100, 0, 0, 2);
+        CHECK.node(x, 2, 4, 0, 0, -1, 0);
+        CHECK.node(x, 2, 5, 0, 0, -1, 1);
+        CHECK.node(x, 2, 3, 1, 0, 2, 1);
         CHECK.same("member(2, 0)", x.member(2, 0), -1);
         CHECK.same("member(2, 1)", x.member(2, 1), -1);
         CHECK.same("member(2, 2)", x.member(2, 2), 0);
@@ -118,9 +105,9 @@ public final class CommitTest {
         Groups.allCome(x, 0, 0, 3, 3);
         x.remove(3, 0);
         x.commit(3, false);
-        epoch(x, 4, 2, 3, 0b1000, 0b1, 0, 0, 1);
-        node(x, 4, 1, 0, 0, -1, 1);
-        node(x, 4, 5, 0, 0, -1, 1);
+        CHECK.epoch(x, 4, 2, 3, 0b1000, 0b1, 0, 0, 1);
+        CHECK.node(x, 4, 1, 0, 0, -1, 1);
+        CHECK.node(x, 4, 5, 0, 0, -1, 1);
         CHECK.same("come(1)", x.come(1), 4);
         CHECK.no("holds(1, 1)", x.holds(1, 1));
         CHECK.yes("holds(1, 3)", x.holds(1, 3));
@@ -134,25 +121,25 @@ public final class CommitTest {
         x.update(0);
         x.update(1);
         x.commit(0, false);
-        epoch(x, 2, 2, 0, 0b1010, 0b100, 0b10, 0, 2);
-        node(x, 2, 2, 1, 0, 2, 1);
+        CHECK.epoch(x, 2, 2, 0, 0b1010, 0b100, 0b10, 0, 2);
+        CHECK.node(x, 2, 2, 1, 0, 2, 1);
         RatchetGroup y = Groups.of(4);
         y.commit(3, true);
         Groups.allCome(y, 0, 1, 2);
-        node(y, 2, 5, 1, 0, 2, 1);
-        node(y, 2, 1, 1, 0, 1, 1);
+        CHECK.node(y, 2, 5, 1, 0, 2, 1);
+        CHECK.node(y, 2, 1, 1, 0, 1, 1);
         y.update(2);
         y.commit(0, false);
-        epoch(y, 3, 2, 0, 0b1010, 0, 0b100, 0, 3);
-        node(y, 3, 5, 0, 0, -1, 2);
-        node(y, 3, 4, 1, 0, 3, 1);
-        node(y, 3, 6, 1, 0, 2, 1);
+        CHECK.epoch(y, 3, 2, 0, 0b1010, 0, 0b100, 0, 3);
+        CHECK.node(y, 3, 5, 0, 0, -1, 2);
+        CHECK.node(y, 3, 4, 1, 0, 3, 1);
+        CHECK.node(y, 3, 6, 1, 0, 2, 1);
         // An UPDATE asks for a path, whatever else goes with it.
         RatchetGroup z = Groups.of(2);
         z.update(1);
         z.add(0, z.offer(2));
         z.commit(0, false);
-        epoch(z, 2, 2, 0, 0b1010, 0, 0b10, 0b100, 3);
+        CHECK.epoch(z, 2, 2, 0, 0b1010, 0, 0b10, 0b100, 3);
     }
 
     private static void addsThatGo() {
@@ -165,31 +152,31 @@ public final class CommitTest {
         x.add(0, ofTwo);
         x.add(0, againOfTwo);
         x.commit(0, false);
-        epoch(x, 2, 2, 0, 0, 0, 0, 0b100, 1);
+        CHECK.epoch(x, 2, 2, 0, 0, 0, 0, 0b100, 1);
         CHECK.same("come(2)", x.come(2), 2);
         CHECK.same("member(2, 2) by the package named first", x.member(2, 2), 4);
         x.remove(0, 2);
         x.commit(0, false);
         x.add(0, againOfTwo);
         x.commit(0, false);
-        epoch(x, 4, 1, 0, 0b10, 0, 0, 0, 1);
+        CHECK.epoch(x, 4, 1, 0, 0b10, 0, 0, 0, 1);
         x.add(0, ofTwo);
         x.commit(0, false);
-        epoch(x, 5, 2, 0, 0, 0, 0, 0b100, 1);
+        CHECK.epoch(x, 5, 2, 0, 0, 0, 0, 0b100, 1);
         // Member 1 is in an old epoch: what it is removed from, it must come to before it is added.
         x.remove(0, 1);
         x.add(0, ofOne);
         x.commit(0, false);
-        epoch(x, 6, 2, 0, 0b1000, 0b10, 0, 0, 1);
+        CHECK.epoch(x, 6, 2, 0, 0b1000, 0b10, 0, 0, 1);
         x.add(0, ofOne);
         x.commit(0, false);
-        epoch(x, 7, 2, 0, 0b1000, 0, 0, 0, 1);
+        CHECK.epoch(x, 7, 2, 0, 0b1000, 0, 0, 0, 1);
         Groups.allCome(x, 1, 1, 1, 1);
         CHECK.same("member(1, 0)", x.member(1, 0), 5);
         CHECK.same("come(1)", x.come(1), -1);
         x.add(0, ofOne);
         x.commit(0, true);
-        epoch(x, 8, 2, 0, 0b1010, 0, 0, 0b10, 3);
+        CHECK.epoch(x, 8, 2, 0, 0b1010, 0, 0, 0b10, 3);
         CHECK.same("come(1)", x.come(1), 8);
     }
 
@@ -201,35 +188,35 @@ public final class CommitTest {
         x.add(0, 0);
         CHECK.same("member(0, 2)", x.member(0, 2), 4);
         x.commit(0, false);
-        epoch(x, 2, 1, 0, 0b10, 0, 0, 0, 1);
+        CHECK.epoch(x, 2, 1, 0, 0b10, 0, 0, 0, 1);
         CHECK.same("member(0, 2)", x.member(0, 2), 3);
-        node(x, 2, 0, 1, 0, 2, 1);
+        CHECK.node(x, 2, 0, 1, 0, 2, 1);
         // With an ADD that goes there is no path, and its own UPDATE is dropped all the same.
         x.update(0);
         x.add(0, x.offer(2));
         x.commit(0, false);
-        epoch(x, 3, 2, 0, 0, 0, 0, 0b100, 1);
-        node(x, 3, 0, 1, 0, 2, 1);
+        CHECK.epoch(x, 3, 2, 0, 0, 0, 0, 0b100, 1);
+        CHECK.node(x, 3, 0, 1, 0, 2, 1);
         CHECK.same("member(0, 2)", x.member(0, 2), 3);
         CHECK.yes("holds(0, 1)", x.holds(0, 1));
         RatchetGroup alone = new RatchetGroup();
         alone.commit(0, false);
-        epoch(alone, 1, 0, 0, 0, 0, 0, 0, 0);
-        node(alone, 1, 0, 1, 0, 1, 1);
+        CHECK.epoch(alone, 1, 0, 0, 0, 0, 0, 0, 0);
+        CHECK.node(alone, 1, 0, 1, 0, 1, 1);
         CHECK.same("member(0, 2)", alone.member(0, 2), 2);
         CHECK.yes("has(0)", alone.has(0));
     }
 
     private static void shrinkAndGrow() {
         RatchetGroup x = Groups.of(6);
-        epoch(x, 1, 3, 0, 0b10001010, 0, 0, 0b111110, 10);
+        CHECK.epoch(x, 1, 3, 0, 0b10001010, 0, 0, 0b111110, 10);
         x.remove(0, 4);
         x.remove(0, 5);
         x.remove(0, 2);
         x.remove(0, 3);
         x.commit(1, false);
-        epoch(x, 2, 1, 1, 0b10, 0b111100, 0, 0, 1);
-        node(x, 2, 3, -1);
+        CHECK.epoch(x, 2, 1, 1, 0b10, 0b111100, 0, 0, 1);
+        CHECK.node(x, 2, 3, -1);
         CHECK.same("come(0)", x.come(0), 2);
         CHECK.same("member(0, 2)", x.member(0, 2), 3);
         // Shrunk and grown in one commit: the top is a new one.
@@ -237,7 +224,7 @@ public final class CommitTest {
         x.add(0, x.offer(2));
         x.add(0, x.offer(3));
         x.commit(0, false);
-        epoch(x, 3, 2, 0, 0b1010, 0b10, 0, 0b110, 4);
+        CHECK.epoch(x, 3, 2, 0, 0b1010, 0b10, 0, 0b110, 4);
         CHECK.same("come(2)", x.come(2), 3);
         CHECK.same("member(2, 1)", x.member(2, 1), 1);
         CHECK.yes("holds(2, 1)", x.holds(2, 1));
@@ -250,8 +237,8 @@ public final class CommitTest {
         y.remove(3, 1);
         y.remove(3, 2);
         y.commit(3, false);
-        epoch(y, 2, 2, 3, 0, 0b111, 0, 0, 0);
-        node(y, 2, 3, 0, 0, -1, 1);
+        CHECK.epoch(y, 2, 2, 3, 0, 0b111, 0, 0, 0);
+        CHECK.node(y, 2, 3, 0, 0, -1, 1);
         CHECK.yes("has(3)", y.has(3));
         CHECK.same("member(3, 2)", y.member(3, 2), 2);
     }
@@ -264,14 +251,14 @@ public final class CommitTest {
         x.add(2, x.offer(5));
         x.add(2, x.offer(4));
         x.commit(2, false);
-        epoch(x, 3, 3, 2, 0, 0, 0, 0b10010, 2);
+        CHECK.epoch(x, 3, 3, 2, 0, 0, 0, 0b10010, 2);
         CHECK.same("come(5)", x.come(5), 3);
         CHECK.same("member(5, 1)", x.member(5, 1), 1);
         CHECK.same("come(4)", x.come(4), 3);
         CHECK.same("member(4, 1)", x.member(4, 1), 4);
-        node(x, 3, 1, 0, 0, -1, 2);
-        node(x, 3, 3, 1, 0b10, 2, 2);
-        node(x, 3, 7, 0, 0, -1, 3);
+        CHECK.node(x, 3, 1, 0, 0, -1, 2);
+        CHECK.node(x, 3, 3, 1, 0b10, 2, 2);
+        CHECK.node(x, 3, 7, 0, 0, -1, 3);
     }
 
     private static void removedAndAddedAtOnce() {
@@ -279,7 +266,7 @@ public final class CommitTest {
         x.add(0, x.offer(1));
         x.remove(1, 1);
         x.commit(0, false);
-        epoch(x, 2, 1, 0, 0b10, 0b10, 0, 0b10, 2);
+        CHECK.epoch(x, 2, 1, 0, 0b10, 0b10, 0, 0b10, 2);
         CHECK.same("member(1, 0)", x.member(1, 0), -1);
         CHECK.same("member(1, 2)", x.member(1, 2), 2);
         CHECK.same("come(1)", x.come(1), 2);
@@ -288,14 +275,14 @@ public final class CommitTest {
 
     private static void wholeTree() {
         RatchetGroup x = Groups.of(16);
-        epoch(x, 1, 4, 0, 1 << 1 | 1 << 3 | 1 << 7 | 1 << 15, 0, 0, 0xFFFE, 30);
-        node(x, 1, 15, 1, 0, 1, 1);
-        node(x, 1, 23, 0, 0, -1, 8);
-        node(x, 1, 30, 1, 0, 1, 1);
-        node(x, 1, 31, -1);
+        CHECK.epoch(x, 1, 4, 0, 1 << 1 | 1 << 3 | 1 << 7 | 1 << 15, 0, 0, 0xFFFE, 30);
+        CHECK.node(x, 1, 15, 1, 0, 1, 1);
+        CHECK.node(x, 1, 23, 0, 0, -1, 8);
+        CHECK.node(x, 1, 30, 1, 0, 1, 1);
+        CHECK.node(x, 1, 31, -1);
         x.add(3, x.offer(3));
         x.commit(15, false);
-        epoch(x, 2, 4, 15, 1 << 29 | 1 << 27 | 1 << 23 | 1 << 15, 0, 0, 0, 1 + 2 + 4 + 1);
+        CHECK.epoch(x, 2, 4, 15, 1 << 29 | 1 << 27 | 1 << 23 | 1 << 15, 0, 0, 0, 1 + 2 + 4 + 1);
         for (int m = 0; m < 15; m++) {
             CHECK.same("come(m)", x.come(m), 2);
             CHECK.same("member(m, 3)", x.member(m, 3), 0);

@@ -1,5 +1,8 @@
-/** Groups that many tests begin with. */
+/** Groups that many tests begin with, and how one looks from outside. */
 final class Groups {
+    /** Numbers that name no member, and no leaf. */
+    static final int[] NOT_TO_15 = {-1, 16, 17, 31, 32, -16, Integer.MAX_VALUE, Integer.MIN_VALUE};
+
     private Groups() {
     }
 
@@ -20,5 +23,33 @@ final class Groups {
         for (int m : members) {
             x.come(m);
         }
+    }
+
+    /** Every answer that can be had without a change. */
+    static String picture(RatchetGroup x) {
+        StringBuilder all = new StringBuilder();
+        all.append(x.epochs()).append(' ').append(x.waiting()).append(' ').append(x.known());
+        for (int m = 0; m < 16; m++) {
+            all.append("\nmember ").append(m).append(x.has(m));
+            for (int what = 0; what < 4; what++) {
+                all.append(' ').append(x.member(m, what));
+            }
+            for (int node = 0; node < 31; node++) {
+                all.append(x.holds(m, node) ? '+' : '-');
+            }
+        }
+        for (int e = 0; e < x.epochs(); e++) {
+            all.append("\nepoch ").append(e).append(x.isKnown(e));
+            for (int what = 0; what < 7; what++) {
+                all.append(' ').append(x.epoch(e, what));
+            }
+            for (int node = 0; node < 31; node++) {
+                all.append(x.isOpen(e, node) ? '+' : '-');
+                for (int what = 0; what < 4; what++) {
+                    all.append(' ').append(x.node(e, node, what));
+                }
+            }
+        }
+        return all.toString();
     }
 }

@@ -16,24 +16,6 @@ public final class IntruderTest {
         CHECK.finish();
     }
 
-    private static void known(RatchetGroup x, int... epochs) {
-        int bits = 0;
-        for (int e : epochs) {
-            bits |= 1 << e;
-        }
-        for (int e = 0; e < x.epochs(); e++) {
-            CHECK.same("isKnown(" + e + ")", x.isKnown(e) ? 1 : 0, bits >>> e & 1);
-        }
-        CHECK.same("known()", x.known(), epochs.length);
-    }
-
-    private static void openJust(RatchetGroup x, int epoch, int nodes) {
-        for (int node = -1; node <= 31; node++) {
-            int due = node < 0 ? 0 : nodes >>> node & 1;
-            CHECK.same("isOpen(" + epoch + ", " + node + ")", x.isOpen(epoch, node) ? 1 : 0, due);
-        }
-    }
-
     private static void wrongQuestions() {
         RatchetGroup x = new RatchetGroup();
         CHECK.same("compromise(0)", x.compromise(0), 2);
@@ -46,22 +28,22 @@ public final class IntruderTest {
         }
         CHECK.no("isKnown(1)", x.isKnown(1));
         CHECK.no("isOpen(0, 1)", x.isOpen(0, 1));
-        known(x, 0);
-        openJust(x, 0, 1);
+        CHECK.known(x, 0);
+        CHECK.openJust(x, 0, 1);
     }
 
     private static void pastStaysClosed() {
         RatchetGroup x = Groups.of(4);
         x.commit(2, true);
         Groups.allCome(x, 0, 1, 3);
-        known(x);
+        CHECK.known(x);
         CHECK.same("compromise(3)", x.compromise(3), 4);
-        known(x, 2);
-        openJust(x, 2, 1 << 6 | 1 << 5 | 1 << 3);
+        CHECK.known(x, 2);
+        CHECK.openJust(x, 2, 1 << 6 | 1 << 5 | 1 << 3);
         // Its leaf key is that of epoch 1, but the path secrets of epoch 1 were not sent to it.
-        openJust(x, 1, 1 << 6);
+        CHECK.openJust(x, 1, 1 << 6);
         CHECK.same("compromise(3) again", x.compromise(3), 4);
-        known(x, 2);
+        CHECK.known(x, 2);
     }
 
     private static void zeroHidesNothing() {
@@ -71,34 +53,34 @@ public final class IntruderTest {
         x.commit(0, false);
         x.add(0, x.offer(3));
         x.commit(0, false);
-        known(x, 1, 2, 3);
-        openJust(x, 3, 1 << 2 | 1 << 1);
+        CHECK.known(x, 1, 2, 3);
+        CHECK.openJust(x, 3, 1 << 2 | 1 << 1);
         RatchetGroup y = new RatchetGroup();
         y.add(0, y.offer(1));
         y.commit(0, false);
         y.add(0, y.offer(2));
         y.commit(0, true);
-        known(y);
+        CHECK.known(y);
         y.come(1);
         y.compromise(1);
-        known(y, 1, 2);
+        CHECK.known(y, 1, 2);
     }
 
     private static void healing() {
         RatchetGroup x = Groups.of(3);
         x.compromise(1);
-        known(x, 1);
+        CHECK.known(x, 1);
         x.commit(0, true);
-        known(x, 1, 2);
-        openJust(x, 2, 1 << 2 | 1 << 1 | 1 << 3);
+        CHECK.known(x, 1, 2);
+        CHECK.openJust(x, 2, 1 << 2 | 1 << 1 | 1 << 3);
         Groups.allCome(x, 1, 2);
         x.commit(1, true);
-        known(x, 1, 2);
-        openJust(x, 3, 0);
+        CHECK.known(x, 1, 2);
+        CHECK.openJust(x, 3, 0);
         Groups.allCome(x, 0, 2);
         x.commit(2, true);
-        known(x, 1, 2);
-        openJust(x, 4, 0);
+        CHECK.known(x, 1, 2);
+        CHECK.openJust(x, 4, 0);
     }
 
     private static void removedMembersAreOut() {
@@ -106,35 +88,35 @@ public final class IntruderTest {
         x.compromise(2);
         x.remove(0, 2);
         x.commit(0, false);
-        known(x, 1);
-        openJust(x, 2, 0);
+        CHECK.known(x, 1);
+        CHECK.openJust(x, 2, 0);
         CHECK.same("compromise(2)", x.compromise(2), 0);
         RatchetGroup alone = Groups.of(2);
         alone.compromise(0);
         alone.remove(0, 1);
         alone.commit(0, false);
-        known(alone, 1);
-        openJust(alone, 2, 0);
+        CHECK.known(alone, 1);
+        CHECK.openJust(alone, 2, 0);
     }
 
     private static void packagesTell() {
         RatchetGroup x = Groups.of(2);
         x.offer(2);
         CHECK.same("compromise(2)", x.compromise(2), 2);
-        known(x);
+        CHECK.known(x);
         x.add(0, 1);
         x.commit(0, true);
-        known(x, 2);
-        openJust(x, 2, 1 << 4 | 1 << 3);
+        CHECK.known(x, 2);
+        CHECK.openJust(x, 2, 1 << 4 | 1 << 3);
         RatchetGroup y = Groups.of(2);
         y.offer(2);
         y.add(0, 1);
         y.commit(1, false);
         y.come(2);
         CHECK.same("compromise(2)", y.compromise(2), 2);
-        known(y, 2);
-        openJust(y, 2, 1 << 4);
-        openJust(y, 1, 0);
+        CHECK.known(y, 2);
+        CHECK.openJust(y, 2, 1 << 4);
+        CHECK.openJust(y, 1, 0);
     }
 
     private static void updatesHeal() {
@@ -142,21 +124,21 @@ public final class IntruderTest {
         x.compromise(1);
         x.update(1);
         x.commit(0, false);
-        known(x, 1);
-        openJust(x, 2, 0);
+        CHECK.known(x, 1);
+        CHECK.openJust(x, 2, 0);
         RatchetGroup y = Groups.of(2);
         y.update(1);
         CHECK.same("compromise(1)", y.compromise(1), 4);
         y.commit(0, false);
-        known(y, 1, 2);
-        openJust(y, 2, 1 << 2 | 1 << 1);
+        CHECK.known(y, 1, 2);
+        CHECK.openJust(y, 2, 1 << 2 | 1 << 1);
         RatchetGroup z = Groups.of(2);
         z.update(1);
         z.compromise(1);
         z.update(1);
         z.commit(0, false);
-        known(z, 1);
-        openJust(z, 2, 0);
+        CHECK.known(z, 1);
+        CHECK.openJust(z, 2, 0);
     }
 
     private static void forgottenUpdates() {
@@ -165,7 +147,7 @@ public final class IntruderTest {
         x.commit(0, false);
         x.update(0);
         CHECK.same("compromise(1) before it comes", x.compromise(1), 4);
-        known(x, 1, 2);
+        CHECK.known(x, 1, 2);
         x.come(1);
         CHECK.same("compromise(1)", x.compromise(1), 3);
         CHECK.same("compromise(0)", x.compromise(0), 4);
@@ -180,11 +162,11 @@ public final class IntruderTest {
         x.add(0, 1);
         x.commit(0, false);
         x.come(1);
-        known(x, 2);
+        CHECK.known(x, 2);
         // Member 0's path heals nothing, since the leaf of member 2 is open.
         x.commit(0, true);
-        known(x, 2, 3);
-        openJust(x, 3, 1 << 4 | 1 << 3);
+        CHECK.known(x, 2, 3);
+        CHECK.openJust(x, 3, 1 << 4 | 1 << 3);
         RatchetGroup y = new RatchetGroup();
         y.add(0, y.offer(1));
         y.commit(0, false);
@@ -196,8 +178,8 @@ public final class IntruderTest {
         y.commit(0, true);
         y.come(1);
         y.compromise(1);
-        known(y, 4);
-        openJust(y, 4, 1 << 2 | 1 << 1);
+        CHECK.known(y, 4);
+        CHECK.openJust(y, 4, 1 << 2 | 1 << 1);
     }
 
     private static void oldMessagesOpen() {
@@ -207,11 +189,11 @@ public final class IntruderTest {
         x.commit(0, true);
         x.commit(0, true);
         x.come(1);
-        known(x);
+        CHECK.known(x);
         // Who is behind still holds what opens all that was sent since.
         CHECK.same("compromise(1)", x.compromise(1), 2);
-        known(x, 1, 2, 3);
-        openJust(x, 3, 1 << 2 | 1 << 1);
+        CHECK.known(x, 1, 2, 3);
+        CHECK.openJust(x, 3, 1 << 2 | 1 << 1);
         RatchetGroup y = new RatchetGroup();
         y.add(0, y.offer(1));
         y.commit(0, false);
@@ -220,7 +202,7 @@ public final class IntruderTest {
         Groups.allCome(y, 1, 1, 1);
         // The leaf key opens the old paths, but the secret before epoch 2 stays hidden.
         y.compromise(1);
-        known(y, 3);
-        openJust(y, 2, 1 << 2 | 1 << 1);
+        CHECK.known(y, 3);
+        CHECK.openJust(y, 2, 1 << 2 | 1 << 1);
     }
 }

@@ -17,19 +17,6 @@ public final class MemberTest {
         CHECK.finish();
     }
 
-    private static void member(RatchetGroup x, int m, int... due) {
-        for (int what = 0; what < due.length; what++) {
-            CHECK.same("member(" + m + ", " + what + ")", x.member(m, what), due[what]);
-        }
-    }
-
-    private static void holdsJust(RatchetGroup x, int m, int nodes) {
-        for (int node = -1; node <= 31; node++) {
-            boolean due = node >= 0 && (nodes >>> node & 1) == 1;
-            CHECK.same("holds(" + m + ", " + node + ")", x.holds(m, node) ? 1 : 0, due ? 1 : 0);
-        }
-    }
-
     private static void wrongComing() {
         RatchetGroup x = new RatchetGroup();
         for (int m : new int[] {-1, 16, Integer.MAX_VALUE, Integer.MIN_VALUE}) {
@@ -53,17 +40,17 @@ public final class MemberTest {
         }
         x.offer(3);
         x.commit(0, true);
-        member(x, 0, 1, 0, 4, 0);
-        member(x, 3, -1, -1, 4, 0);
-        holdsJust(x, 3, 0);
+        CHECK.member(x, 0, 1, 0, 4, 0);
+        CHECK.member(x, 3, -1, -1, 4, 0);
+        CHECK.holdsJust(x, 3, 0);
         CHECK.no("has(3)", x.has(3));
         x.come(3);
-        member(x, 3, 1, 3, 5, 0);
-        holdsJust(x, 3, 1 << 6 | 1 << 3);
+        CHECK.member(x, 3, 1, 3, 5, 0);
+        CHECK.holdsJust(x, 3, 1 << 6 | 1 << 3);
         CHECK.yes("has(3)", x.has(3));
         x.come(1);
-        member(x, 1, 1, 1, 4, 0);
-        holdsJust(x, 1, 1 << 2 | 1 << 1 | 1 << 3);
+        CHECK.member(x, 1, 1, 1, 4, 0);
+        CHECK.holdsJust(x, 1, 1 << 2 | 1 << 1 | 1 << 3);
     }
 
     private static void joinWithoutPath() {
@@ -71,32 +58,32 @@ public final class MemberTest {
         x.add(0, x.offer(2));
         x.commit(0, false);
         x.come(2);
-        member(x, 2, 2, 2, 2, 0);
-        holdsJust(x, 2, 1 << 4);
+        CHECK.member(x, 2, 2, 2, 2, 0);
+        CHECK.holdsJust(x, 2, 1 << 4);
         CHECK.yes("has(2)", x.has(2));
         // An unmerged leaf does not hold the key of the node that has it so.
         RatchetGroup y = Groups.of(3);
         y.add(1, y.offer(3));
         y.commit(1, false);
         y.come(3);
-        holdsJust(y, 3, 1 << 6);
+        CHECK.holdsJust(y, 3, 1 << 6);
         y.commit(1, true);
         CHECK.same("come(3)", y.come(3), 3);
-        holdsJust(y, 3, 1 << 6 | 1 << 3);
-        member(y, 3, 3, 3, 3, 0);
+        CHECK.holdsJust(y, 3, 1 << 6 | 1 << 3);
+        CHECK.member(y, 3, 3, 3, 3, 0);
     }
 
     private static void updateOnTheWay() {
         RatchetGroup x = Groups.of(3);
         x.update(1);
         x.update(1);
-        member(x, 1, 1, 1, 6, 0);
+        CHECK.member(x, 1, 1, 1, 6, 0);
         x.commit(0, false);
-        member(x, 1, 1, 1, 6, 0);
-        holdsJust(x, 1, 1 << 2 | 1 << 1 | 1 << 3);
+        CHECK.member(x, 1, 1, 1, 6, 0);
+        CHECK.holdsJust(x, 1, 1 << 2 | 1 << 1 | 1 << 3);
         x.come(1);
-        member(x, 1, 2, 1, 4, 0);
-        holdsJust(x, 1, 1 << 2 | 1 << 1 | 1 << 3);
+        CHECK.member(x, 1, 2, 1, 4, 0);
+        CHECK.holdsJust(x, 1, 1 << 2 | 1 << 1 | 1 << 3);
         CHECK.yes("has(1)", x.has(1));
         // An UPDATE that waits when its member's leaf is removed is forgotten with the rest.
         x.come(2);
@@ -104,9 +91,9 @@ public final class MemberTest {
         x.offer(2);
         x.remove(1, 2);
         x.commit(1, false);
-        member(x, 2, -1, -1, 2, 0);
+        CHECK.member(x, 2, -1, -1, 2, 0);
         CHECK.no("has(2)", x.has(2));
-        holdsJust(x, 2, 0);
+        CHECK.holdsJust(x, 2, 0);
     }
 
     private static void stepByStep() {
@@ -116,8 +103,8 @@ public final class MemberTest {
         }
         for (int e = 2; e <= 6; e++) {
             CHECK.same("come(3)", x.come(3), e);
-            member(x, 3, e, 3, 3, 0);
-            holdsJust(x, 3, 1 << 6 | 1 << 3);
+            CHECK.member(x, 3, e, 3, 3, 0);
+            CHECK.holdsJust(x, 3, 1 << 6 | 1 << 3);
             CHECK.yes("has(3)", x.has(3));
         }
         CHECK.throwsState("come(3)", () -> x.come(3));
@@ -129,11 +116,11 @@ public final class MemberTest {
         x.commit(0, true);
         x.remove(0, 2);
         x.commit(0, false);
-        member(x, 2, 1, 2, 5, 0);
+        CHECK.member(x, 2, 1, 2, 5, 0);
         CHECK.yes("has(2)", x.has(2));
         CHECK.same("come(2)", x.come(2), 2);
         CHECK.same("come(2)", x.come(2), -1);
-        member(x, 2, -1, -1, 2, 0);
+        CHECK.member(x, 2, -1, -1, 2, 0);
         CHECK.no("has(2)", x.has(2));
         CHECK.throwsState("come(2)", () -> x.come(2));
     }
@@ -148,13 +135,13 @@ public final class MemberTest {
         x.commit(0, true);
         x.add(0, later);
         x.commit(0, true);
-        member(x, 1, -1, -1, 4, 0);
+        CHECK.member(x, 1, -1, -1, 4, 0);
         CHECK.same("come(1)", x.come(1), 1);
-        member(x, 1, 1, 1, 5, 0);
+        CHECK.member(x, 1, 1, 1, 5, 0);
         CHECK.same("come(1)", x.come(1), -1);
-        member(x, 1, -1, -1, 2, 0);
+        CHECK.member(x, 1, -1, -1, 2, 0);
         CHECK.same("come(1)", x.come(1), 3);
-        member(x, 1, 3, 1, 3, 0);
+        CHECK.member(x, 1, 3, 1, 3, 0);
         CHECK.throwsState("come(1)", () -> x.come(1));
     }
 
@@ -177,19 +164,19 @@ public final class MemberTest {
         RatchetGroup x = Groups.of(4);
         x.commit(2, true);
         Groups.allCome(x, 0, 1, 3);
-        holdsJust(x, 3, 1 << 6 | 1 << 5 | 1 << 3);
-        holdsJust(x, 1, 1 << 2 | 1 << 1 | 1 << 3);
+        CHECK.holdsJust(x, 3, 1 << 6 | 1 << 5 | 1 << 3);
+        CHECK.holdsJust(x, 1, 1 << 2 | 1 << 1 | 1 << 3);
         x.add(1, x.offer(4));
         x.commit(1, false);
-        holdsJust(x, 1, 1 << 2 | 1 << 1 | 1 << 3);
+        CHECK.holdsJust(x, 1, 1 << 2 | 1 << 1 | 1 << 3);
         x.come(3);
-        holdsJust(x, 3, 1 << 6 | 1 << 5 | 1 << 3);
+        CHECK.holdsJust(x, 3, 1 << 6 | 1 << 5 | 1 << 3);
         x.commit(1, true);
         x.come(3);
-        holdsJust(x, 3, 1 << 6 | 1 << 5 | 1 << 3 | 1 << 7);
+        CHECK.holdsJust(x, 3, 1 << 6 | 1 << 5 | 1 << 3 | 1 << 7);
         x.remove(3, 4);
         x.commit(3, false);
-        holdsJust(x, 3, 1 << 6 | 1 << 5 | 1 << 3);
+        CHECK.holdsJust(x, 3, 1 << 6 | 1 << 5 | 1 << 3);
         x.come(2);
         x.come(2);
         x.come(2);
@@ -197,8 +184,8 @@ public final class MemberTest {
         x.commit(3, false);
         x.come(1);
         x.come(1);
-        member(x, 1, 6, 1, 4, 0);
-        holdsJust(x, 1, 1 << 2 | 1 << 1 | 1 << 3);
+        CHECK.member(x, 1, 6, 1, 4, 0);
+        CHECK.holdsJust(x, 1, 1 << 2 | 1 << 1 | 1 << 3);
     }
 
     private static void keysOfOthers() {

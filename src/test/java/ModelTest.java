@@ -40,7 +40,12 @@ public final class ModelTest {
     }
 
     private int anyMember() {
-        return random.nextInt(40) == 0 ? random.nextInt(24) - 4 : random.nextInt(16);
+        return random.nextInt(40) == 0 ? outside() : random.nextInt(16);
+    }
+
+    private int outside() {
+        int[] far = {Integer.MIN_VALUE, Integer.MAX_VALUE, 31, 32, -16};
+        return random.nextBoolean() ? far[random.nextInt(far.length)] : random.nextInt(24) - 4;
     }
 
     /** Most often one that is in the latest epoch, or little would ever happen. */
