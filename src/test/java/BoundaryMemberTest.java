@@ -33,6 +33,7 @@ public final class BoundaryMemberTest {
         firstKeyIsDropped();
         toldWhatWasHeldThen();
         toldInEitherOrder();
+        keysTellNothingBack();
         toldBeforeItIsSent();
         toldByALeafUnderEachHeight();
         toldByAPackageUnderEachHeight();
@@ -524,6 +525,22 @@ public final class BoundaryMemberTest {
         z.commit(0, true);
         CHECK.known(z, 1);
         CHECK.openJust(z, 2, 0);
+    }
+
+    private static void keysTellNothingBack() {
+        CHECK.sentence("Who knows p, or j, or e, knows what these have of it");
+        RatchetGroup x = Groups.of(4);
+        x.compromise(0);
+        x.commit(0, true);
+        Groups.allCome(x, 1, 2, 3);
+        CHECK.known(x, 1);
+        x.commit(2, true);
+        x.come(0);
+        // Told now: node 1's key of epoch 2, but not the path secret that it is of, nor what else that has.
+        CHECK.same("compromise(0)", x.compromise(0), 4);
+        CHECK.known(x, 1, 3);
+        CHECK.openJust(x, 2, LEAF_0 | NODE_1);
+        CHECK.openJust(x, 3, LEAF_0 | NODE_1 | NODE_3);
     }
 
     private static void toldBeforeItIsSent() {
